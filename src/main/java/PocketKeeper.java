@@ -435,16 +435,13 @@ public final class PocketKeeper {
         return (exponent << 52) + (long) ((part - 1.0) * (double) (1L << 52));
     }
 
+    /** A ratio is never below one, so there is nothing to double. */
     private static int bitsOfFloat(float quotient) {
         float part = quotient;
         int exponent = 127;
         for (int i = 0; i < MOST_SCALINGS && part >= 2.0f; i++) {
             part = part / 2.0f;
             exponent++;
-        }
-        for (int i = 0; i < MOST_SCALINGS && part < 1.0f; i++) {
-            part = part * 2.0f;
-            exponent--;
         }
         return (exponent << 23) + (int) ((part - 1.0f) * (float) (1 << 23));
     }
@@ -768,7 +765,7 @@ public final class PocketKeeper {
             for (int place = row.size() - 1; place >= 0; place--) {
                 fillPlace(place);
             }
-            return row.size() == 0 ? 0 : magazine.sizeOf(row.needs(0)) + costBehind[cell(0, 0)];
+            return magazine.sizeOf(row.needs(0)) + costBehind[cell(0, 0)];
         }
 
         int leastSetAtLeastCost(int place, int unneeded) {
@@ -776,7 +773,8 @@ public final class PocketKeeper {
             int leastCost = costBehind[cell(place, worth)];
             int kept = 0;
             for (int left = subsets(worth); left > 0; left--) {
-                if (costBehind[cell(place, kept)] == leastCost && magazine.holds(row.needs(place) | kept)) {
+                // there is room for it: else a set with a tool less, and so a lesser one, costs the same
+                if (costBehind[cell(place, kept)] == leastCost) {
                     return kept;
                 }
                 kept = subsetBehind(worth, kept);

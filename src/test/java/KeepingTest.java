@@ -8,6 +8,7 @@ public final class KeepingTest {
         soonestWithBreaks();
         planIsLeast();
         planWithBreaks();
+        askedAgain();
         costs();
         meansAndRatios();
         pairs();
@@ -103,6 +104,34 @@ public final class KeepingTest {
         planIs("14: LEAST below SOONEST", x, 2, "bd", "d", "c", 1);
         planIs("14: LEAST below SOONEST", x, 3, "ab", "a", "d", 2);
         planIs("14: LEAST below SOONEST", x, 4, "bc", "c", "a", 1);
+        x = with(9, "abcdh", "egh,efh,abce,cdfgh");
+        planIs("14: the first place counts first", x, 1, "efh", "f", "g", 1);
+        planIs("14: the first place counts first", x, 2, "abceh", "abc", "f", 6);
+        planIs("14: the first place counts first", x, 3, "cdfgh", "dfg", "abe", 4);
+    }
+
+    private static void askedAgain() {
+        PocketKeeper x = with(4, "", "abc,d,a");
+        soonestIs("13: ahead of big()", x, 1, "abcd", "d", "", 1);
+        x.big(0, true);
+        soonestIs("13: behind big()", x, 1, "abd", "d", "c", 1);
+        planIs("14: behind big()", x, 1, "ad", "d", "bc", 1);
+        x.pockets(5);
+        soonestIs("13: behind pockets()", x, 1, "abcd", "d", "", 1);
+        x.breaks(0, 0, true);
+        soonestIs("13: behind breaks()", x, 1, "bcd", "d", "", 1);
+        x.swap(1, 2);
+        soonestIs("13: behind swap()", x, 1, "abc", "a", "", 2);
+        Due.due("18: pair(0) behind swap()", x.pair(0), 0);
+        Due.due("18: pair(1) behind swap()", x.pair(1), 2);
+        Due.due("19: better()", x.better(), 5);
+        soonestIs("13: behind better()", x, 0, "d", "d", "", 1);
+        planIs("14: behind better()", x, 2, "abc", "bc", "", 2);
+        Due.write(x, "e,f");
+        x.jobs();
+        soonestIs("13: behind jobs()", x, 1, "ef", "f", "", 1);
+        planIs("14: behind jobs()", x, 1, "f", "f", "e", 1);
+        Due.due("18: pair(0) behind jobs()", x.pair(0), PocketKeeper.NONE);
     }
 
     private static void planWithBreaks() {
@@ -125,6 +154,8 @@ public final class KeepingTest {
     private static void costs() {
         costsAre("15: BIG ones", with(4, "ab", "a,bc,d,a,bc"), 10, 9, 6, 6, 6);
         costsAre("15: SLIM ones", with(2, "", "ab,c,b,a"), 4, 4, 3, 4, 4);
+        costsAre("15: SOONEST comes oftener", with(3, "ac", "h,a,c,a,h"), 8, 7, 5, 5, 4);
+        costsAre("15: THE PLAN comes oftener", with(9, "abcdh", "egh,efh,abce,cdfgh"), 15, 15, 13, 9, 10);
         costsAre("15: one job", with(2, "h", "h"), 2, 2, 2, 1, 1);
         costsAre("15: the same job", with(3, "", "abc,abc,abc,abc,abc,abc,abc,abc"), 3, 3, 3, 3, 3);
         costsAre("15: no room", with(2, "abcd", "a,b,c,d,a,b,c,d"), 16, 16, 8, 8, 8);

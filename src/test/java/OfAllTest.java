@@ -43,6 +43,8 @@ public final class OfAllTest {
     }
 
     private static void tooBigCounts() {
+        Due.due("20: count(7) of the first job", Due.of("abcde,a").count(7), 1);
+        Due.due("20: count(7) of the last job", Due.of("a,abcde").count(7), 1);
         PocketKeeper x = Due.of("a,abcde,b");
         Due.due("20: count(7) of five in four", x.count(7), 1);
         x.pockets(5);
