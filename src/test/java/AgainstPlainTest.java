@@ -4,6 +4,7 @@ import java.util.Random;
 public final class AgainstPlainTest {
     private static final int RUNS = 800;
     private static final int CALLS = 60;
+    private static final int[] FAR = {Integer.MIN_VALUE, Integer.MAX_VALUE, Integer.MIN_VALUE + 1, 1 << 16, 256, -256};
 
     private final Random random;
     private final PocketKeeper x = new PocketKeeper();
@@ -61,7 +62,12 @@ public final class AgainstPlainTest {
     }
 
     private int near(int limit) {
-        return random.nextInt(25) == 0 ? random.nextInt(40) - 15 : random.nextInt(limit);
+        switch (random.nextInt(50)) {
+            case 0: return random.nextInt(40) - 15;
+            case 1: return random.nextBoolean() ? -1 : limit;
+            case 2: return FAR[random.nextInt(FAR.length)];
+            default: return random.nextInt(limit);
+        }
     }
 
     private void call() {

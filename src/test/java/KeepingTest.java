@@ -18,152 +18,121 @@ public final class KeepingTest {
         Due.end();
     }
 
-    private static PocketKeeper with(int pockets, String big, String jobs) {
-        PocketKeeper x = Due.of(jobs);
-        x.pockets(pockets);
-        for (int i = 0; i < big.length(); i++) {
-            x.big(big.charAt(i) - 'a', true);
-        }
-        return x;
-    }
-
-    private static void soonestIs(String name, PocketKeeper x, int place, String inside, String comes, String goes, int cost) {
-        String call = name + " soonest(" + place + ", ";
-        Due.due(call + "0)", x.soonest(place, 0), Due.bits(inside));
-        Due.due(call + "1)", x.soonest(place, 1), Due.bits(comes));
-        Due.due(call + "2)", x.soonest(place, 2), Due.bits(goes));
-        Due.due(call + "3)", x.soonest(place, 3), cost);
-    }
-
-    private static void planIs(String name, PocketKeeper x, int place, String inside, String comes, String goes, int cost) {
-        String call = name + " plan(" + place + ", ";
-        Due.due(call + "0)", x.plan(place, 0), Due.bits(inside));
-        Due.due(call + "1)", x.plan(place, 1), Due.bits(comes));
-        Due.due(call + "2)", x.plan(place, 2), Due.bits(goes));
-        Due.due(call + "3)", x.plan(place, 3), cost);
-    }
-
     private static void soonestGoesLatestFirst() {
-        PocketKeeper x = with(2, "", "ab,c,b,a");
-        soonestIs("13: latest", x, 0, "ab", "ab", "", 2);
-        soonestIs("13: latest", x, 1, "bc", "c", "a", 1);
-        soonestIs("13: latest", x, 2, "bc", "", "", 0);
-        soonestIs("13: latest", x, 3, "ab", "a", "c", 1);
-        x = with(4, "a", "abc,d,a,b");
-        soonestIs("13: never is latest, BIG or not", x, 1, "abd", "d", "c", 1);
-        x = with(4, "", "abc,d");
-        soonestIs("13: all may stay", x, 1, "abcd", "d", "", 1);
-        x = with(4, "d", "abc,d,a");
-        soonestIs("13: one goes for a big one", x, 1, "abd", "d", "c", 2);
-        x = with(3, "d", "abc,d,a");
-        soonestIs("13: two go", x, 1, "ad", "d", "bc", 2);
-        x = with(12, "abcd", "abcdefgh,a");
-        soonestIs("13: full to the last pocket", x, 0, "abcdefgh", "abcdefgh", "", 12);
-        soonestIs("13: full to the last pocket", x, 1, "abcdefgh", "", "", 0);
+        PocketKeeper x = Due.with(2, "", "ab,c,b,a");
+        Due.soonestIs("13: latest", x, 0, "ab", "ab", "", 2);
+        Due.soonestIs("13: latest", x, 1, "bc", "c", "a", 1);
+        Due.soonestIs("13: latest", x, 2, "bc", "", "", 0);
+        Due.soonestIs("13: latest", x, 3, "ab", "a", "c", 1);
+        x = Due.with(4, "a", "abc,d,a,b");
+        Due.soonestIs("13: never is latest, BIG or not", x, 1, "abd", "d", "c", 1);
+        x = Due.with(4, "", "abc,d");
+        Due.soonestIs("13: all may stay", x, 1, "abcd", "d", "", 1);
+        x = Due.with(4, "d", "abc,d,a");
+        Due.soonestIs("13: one goes for a big one", x, 1, "abd", "d", "c", 2);
+        x = Due.with(3, "d", "abc,d,a");
+        Due.soonestIs("13: two go", x, 1, "ad", "d", "bc", 2);
+        x = Due.with(12, "abcd", "abcdefgh,a");
+        Due.soonestIs("13: full to the last pocket", x, 0, "abcdefgh", "abcdefgh", "", 12);
+        Due.soonestIs("13: full to the last pocket", x, 1, "abcdefgh", "", "", 0);
     }
 
     private static void soonestOfLikeOnes() {
-        PocketKeeper x = with(3, "", "abc,d");
-        soonestIs("13: greatest number", x, 1, "abd", "d", "c", 1);
-        x = with(4, "a", "abc,d");
-        soonestIs("13: BIG ahead of SLIM", x, 1, "bcd", "d", "a", 1);
-        x = with(5, "ab", "abc,d");
-        soonestIs("13: of BIG ones the greatest number", x, 1, "acd", "d", "b", 1);
-        x = with(4, "b", "abc,d,abc");
-        soonestIs("13: like NEXT, BIG first", x, 1, "acd", "d", "b", 1);
-        x = with(3, "", "abc,d,abc");
-        soonestIs("13: like NEXT, greatest number", x, 1, "abd", "d", "c", 1);
+        PocketKeeper x = Due.with(3, "", "abc,d");
+        Due.soonestIs("13: greatest number", x, 1, "abd", "d", "c", 1);
+        x = Due.with(4, "a", "abc,d");
+        Due.soonestIs("13: BIG ahead of SLIM", x, 1, "bcd", "d", "a", 1);
+        x = Due.with(5, "ab", "abc,d");
+        Due.soonestIs("13: of BIG ones the greatest number", x, 1, "acd", "d", "b", 1);
+        x = Due.with(4, "b", "abc,d,abc");
+        Due.soonestIs("13: like NEXT, BIG first", x, 1, "acd", "d", "b", 1);
+        x = Due.with(3, "", "abc,d,abc");
+        Due.soonestIs("13: like NEXT, greatest number", x, 1, "abd", "d", "c", 1);
     }
 
     private static void soonestWithBreaks() {
-        PocketKeeper x = with(2, "", "ab,c,b,a");
+        PocketKeeper x = Due.with(2, "", "ab,c,b,a");
         x.breaks(1, 1, true);
-        soonestIs("13: a tool about to break", x, 1, "ac", "c", "b", 1);
-        soonestIs("13: a tool about to break", x, 2, "ab", "b", "c", 1);
-        soonestIs("13: a tool about to break", x, 3, "ab", "", "", 0);
-        x = with(2, "", "a,b,a");
+        Due.soonestIs("13: a tool about to break", x, 1, "ac", "c", "b", 1);
+        Due.soonestIs("13: a tool about to break", x, 2, "ab", "b", "c", 1);
+        Due.soonestIs("13: a tool about to break", x, 3, "ab", "", "", 0);
+        x = Due.with(2, "", "a,b,a");
         x.breaks(0, 0, true);
-        soonestIs("13: what broke does not go", x, 1, "b", "b", "", 1);
-        soonestIs("13: what broke comes", x, 2, "ab", "a", "", 1);
+        Due.soonestIs("13: what broke does not go", x, 1, "b", "b", "", 1);
+        Due.soonestIs("13: what broke comes", x, 2, "ab", "a", "", 1);
         x.breaks(0, 0, false);
         x.breaks(0, 1, true);
-        soonestIs("13: a break of what is not there", x, 1, "ab", "b", "", 1);
-        soonestIs("13: a break of what is not there", x, 2, "ab", "", "", 0);
+        Due.soonestIs("13: a break of what is not there", x, 1, "ab", "b", "", 1);
+        Due.soonestIs("13: a break of what is not there", x, 2, "ab", "", "", 0);
     }
 
     private static void planIsLeast() {
-        PocketKeeper x = with(2, "", "ab,c,b,a");
-        planIs("14: least bits", x, 0, "ab", "ab", "", 2);
-        planIs("14: least bits", x, 1, "ac", "c", "b", 1);
-        planIs("14: least bits", x, 2, "ab", "b", "c", 1);
-        planIs("14: least bits", x, 3, "a", "", "b", 0);
-        x = with(12, "", "abcdefgh,h");
-        planIs("14: nothing stays for nothing", x, 1, "h", "", "abcdefg", 0);
-        x = with(4, "ab", "a,bc,d,a,bc");
-        planIs("14: LEAST below SOONEST", x, 1, "bc", "bc", "a", 3);
-        planIs("14: LEAST below SOONEST", x, 2, "bd", "d", "c", 1);
-        planIs("14: LEAST below SOONEST", x, 3, "ab", "a", "d", 2);
-        planIs("14: LEAST below SOONEST", x, 4, "bc", "c", "a", 1);
-        x = with(9, "abcdh", "egh,efh,abce,cdfgh");
-        planIs("14: the first place counts first", x, 1, "efh", "f", "g", 1);
-        planIs("14: the first place counts first", x, 2, "abceh", "abc", "f", 6);
-        planIs("14: the first place counts first", x, 3, "cdfgh", "dfg", "abe", 4);
+        PocketKeeper x = Due.with(2, "", "ab,c,b,a");
+        Due.planIs("14: least bits", x, 0, "ab", "ab", "", 2);
+        Due.planIs("14: least bits", x, 1, "ac", "c", "b", 1);
+        Due.planIs("14: least bits", x, 2, "ab", "b", "c", 1);
+        Due.planIs("14: least bits", x, 3, "a", "", "b", 0);
+        x = Due.with(12, "", "abcdefgh,h");
+        Due.planIs("14: nothing stays for nothing", x, 1, "h", "", "abcdefg", 0);
+        x = Due.with(4, "ab", "a,bc,d,a,bc");
+        Due.planIs("14: LEAST below SOONEST", x, 1, "bc", "bc", "a", 3);
+        Due.planIs("14: LEAST below SOONEST", x, 2, "bd", "d", "c", 1);
+        Due.planIs("14: LEAST below SOONEST", x, 3, "ab", "a", "d", 2);
+        Due.planIs("14: LEAST below SOONEST", x, 4, "bc", "c", "a", 1);
+        x = Due.with(9, "abcdh", "egh,efh,abce,cdfgh");
+        Due.planIs("14: the first place counts first", x, 1, "efh", "f", "g", 1);
+        Due.planIs("14: the first place counts first", x, 2, "abceh", "abc", "f", 6);
+        Due.planIs("14: the first place counts first", x, 3, "cdfgh", "dfg", "abe", 4);
     }
 
     private static void askedAgain() {
-        PocketKeeper x = with(4, "", "abc,d,a");
-        soonestIs("13: ahead of big()", x, 1, "abcd", "d", "", 1);
+        PocketKeeper x = Due.with(4, "", "abc,d,a");
+        Due.soonestIs("13: ahead of big()", x, 1, "abcd", "d", "", 1);
         x.big(0, true);
-        soonestIs("13: behind big()", x, 1, "abd", "d", "c", 1);
-        planIs("14: behind big()", x, 1, "ad", "d", "bc", 1);
+        Due.soonestIs("13: behind big()", x, 1, "abd", "d", "c", 1);
+        Due.planIs("14: behind big()", x, 1, "ad", "d", "bc", 1);
         x.pockets(5);
-        soonestIs("13: behind pockets()", x, 1, "abcd", "d", "", 1);
+        Due.soonestIs("13: behind pockets()", x, 1, "abcd", "d", "", 1);
         x.breaks(0, 0, true);
-        soonestIs("13: behind breaks()", x, 1, "bcd", "d", "", 1);
+        Due.soonestIs("13: behind breaks()", x, 1, "bcd", "d", "", 1);
         x.swap(1, 2);
-        soonestIs("13: behind swap()", x, 1, "abc", "a", "", 2);
+        Due.soonestIs("13: behind swap()", x, 1, "abc", "a", "", 2);
         Due.due("18: pair(0) behind swap()", x.pair(0), 0);
         Due.due("18: pair(1) behind swap()", x.pair(1), 2);
         Due.due("19: better()", x.better(), 5);
-        soonestIs("13: behind better()", x, 0, "d", "d", "", 1);
-        planIs("14: behind better()", x, 2, "abc", "bc", "", 2);
+        Due.soonestIs("13: behind better()", x, 0, "d", "d", "", 1);
+        Due.planIs("14: behind better()", x, 2, "abc", "bc", "", 2);
         Due.write(x, "e,f");
         x.jobs();
-        soonestIs("13: behind jobs()", x, 1, "ef", "f", "", 1);
-        planIs("14: behind jobs()", x, 1, "f", "f", "e", 1);
+        Due.soonestIs("13: behind jobs()", x, 1, "ef", "f", "", 1);
+        Due.planIs("14: behind jobs()", x, 1, "f", "f", "e", 1);
         Due.due("18: pair(0) behind jobs()", x.pair(0), PocketKeeper.NONE);
     }
 
     private static void planWithBreaks() {
-        PocketKeeper x = with(3, "", "ab,c,ab");
-        planIs("14: no break", x, 1, "abc", "c", "", 1);
+        PocketKeeper x = Due.with(3, "", "ab,c,ab");
+        Due.planIs("14: no break", x, 1, "abc", "c", "", 1);
         x.breaks(1, 0, true);
-        planIs("14: a break ahead", x, 1, "bc", "c", "a", 1);
-        planIs("14: a break ahead", x, 2, "ab", "a", "c", 1);
+        Due.planIs("14: a break ahead", x, 1, "bc", "c", "a", 1);
+        Due.planIs("14: a break ahead", x, 2, "ab", "a", "c", 1);
         x.breaks(0, 1, true);
-        planIs("14: broken ones do not go", x, 1, "c", "c", "a", 1);
-        planIs("14: broken ones come", x, 2, "ab", "ab", "c", 2);
-    }
-
-    private static void costsAre(String name, PocketKeeper x, int... want) {
-        for (int what = 0; what < want.length; what++) {
-            Due.due(name + " cost(" + what + ")", x.cost(what), want[what]);
-        }
+        Due.planIs("14: broken ones do not go", x, 1, "c", "c", "a", 1);
+        Due.planIs("14: broken ones come", x, 2, "ab", "ab", "c", 2);
     }
 
     private static void costs() {
-        costsAre("15: BIG ones", with(4, "ab", "a,bc,d,a,bc"), 10, 9, 6, 6, 6);
-        costsAre("15: SLIM ones", with(2, "", "ab,c,b,a"), 4, 4, 3, 4, 4);
-        costsAre("15: SOONEST comes oftener", with(3, "ac", "h,a,c,a,h"), 8, 7, 5, 5, 4);
-        costsAre("15: THE PLAN comes oftener", with(9, "abcdh", "egh,efh,abce,cdfgh"), 15, 15, 13, 9, 10);
-        costsAre("15: one job", with(2, "h", "h"), 2, 2, 2, 1, 1);
-        costsAre("15: the same job", with(3, "", "abc,abc,abc,abc,abc,abc,abc,abc"), 3, 3, 3, 3, 3);
-        costsAre("15: no room", with(2, "abcd", "a,b,c,d,a,b,c,d"), 16, 16, 8, 8, 8);
-        PocketKeeper x = with(2, "", "a,a,a");
+        Due.costsAre("15: BIG ones", Due.with(4, "ab", "a,bc,d,a,bc"), 10, 9, 6, 6, 6);
+        Due.costsAre("15: SLIM ones", Due.with(2, "", "ab,c,b,a"), 4, 4, 3, 4, 4);
+        Due.costsAre("15: SOONEST comes oftener", Due.with(3, "ac", "h,a,c,a,h"), 8, 7, 5, 5, 4);
+        Due.costsAre("15: THE PLAN comes oftener", Due.with(9, "abcdh", "egh,efh,abce,cdfgh"), 15, 15, 13, 9, 10);
+        Due.costsAre("15: one job", Due.with(2, "h", "h"), 2, 2, 2, 1, 1);
+        Due.costsAre("15: the same job", Due.with(3, "", "abc,abc,abc,abc,abc,abc,abc,abc"), 3, 3, 3, 3, 3);
+        Due.costsAre("15: no room", Due.with(2, "abcd", "a,b,c,d,a,b,c,d"), 16, 16, 8, 8, 8);
+        PocketKeeper x = Due.with(2, "", "a,a,a");
         x.breaks(0, 0, true);
         x.breaks(1, 0, true);
         x.breaks(2, 0, true);
-        costsAre("15: a break each time", x, 3, 3, 1, 3, 3);
+        Due.costsAre("15: a break each time", x, 3, 3, 1, 3, 3);
     }
 
     private static void quotientsAre(String name, PocketKeeper x, int soonest, int many, int least) {
@@ -172,37 +141,35 @@ public final class KeepingTest {
     }
 
     private static void meansAndRatios() {
-        quotientsAre("BIG ones", with(4, "ab", "a,bc,d,a,bc"), 10, 5, 9);
-        quotientsAre("an eighth", with(4, "", "a,a,a,a,a,a,a,a"), 1, 8, 1);
-        quotientsAre("a third", with(4, "", "a,a,a"), 1, 3, 1);
-        quotientsAre("one", with(4, "", "ab,ab"), 2, 2, 2);
-        quotientsAre("twelve", with(12, "abcd", "abcdefgh"), 12, 1, 12);
-        quotientsAre("two thirds", with(4, "", "ab,ab,a"), 2, 3, 2);
-        quotientsAre("five sixths", with(5, "", "abcde,a,a,a,a,a"), 5, 6, 5);
+        quotientsAre("BIG ones", Due.with(4, "ab", "a,bc,d,a,bc"), 10, 5, 9);
+        quotientsAre("an eighth", Due.with(4, "", "a,a,a,a,a,a,a,a"), 1, 8, 1);
+        quotientsAre("a third", Due.with(4, "", "a,a,a"), 1, 3, 1);
+        quotientsAre("one", Due.with(4, "", "ab,ab"), 2, 2, 2);
+        quotientsAre("twelve", Due.with(12, "abcd", "abcdefgh"), 12, 1, 12);
+        quotientsAre("two thirds", Due.with(4, "", "ab,ab,a"), 2, 3, 2);
+        quotientsAre("five sixths", Due.with(5, "", "abcde,a,a,a,a,a"), 5, 6, 5);
     }
 
     private static void pairIs(String name, PocketKeeper x, int first, int second, int least) {
         long h = x.digest();
-        Due.due("18: " + name + " pair(0)", x.pair(0), first);
-        Due.due("18: " + name + " pair(1)", x.pair(1), second);
-        Due.due("18: " + name + " pair(2)", x.pair(2), least);
+        Due.pairIs("18: " + name, x, first, second, least);
         Due.due("18: " + name + " changes nothing", x.digest(), h);
     }
 
     private static void pairs() {
-        pairIs("of like ones the first", with(2, "b", "a,b,a"), 0, 1, 3);
-        pairIs("of like ones the lesser first place", with(2, "b", "b,a,b,b"), 0, 1, 3);
-        pairIs("the best, not the first", with(2, "b", "b,a,a,b"), 0, 2, 3);
-        pairIs("none", with(2, "b", "b,b,a,a"), -1, -1, -1);
-        pairIs("one job", with(2, "", "a"), -1, -1, -1);
-        PocketKeeper x = with(2, "b", "b,b,a,a");
+        pairIs("of like ones the first", Due.with(2, "b", "a,b,a"), 0, 1, 3);
+        pairIs("of like ones the lesser first place", Due.with(2, "b", "b,a,b,b"), 0, 1, 3);
+        pairIs("the best, not the first", Due.with(2, "b", "b,a,a,b"), 0, 2, 3);
+        pairIs("none", Due.with(2, "b", "b,b,a,a"), -1, -1, -1);
+        pairIs("one job", Due.with(2, "", "a"), -1, -1, -1);
+        PocketKeeper x = Due.with(2, "b", "b,b,a,a");
         x.breaks(0, 1, true);
         // b breaks behind place 0, whichever job is there: b,b,a,a costs 5, a,b,b,a costs 4, a,b,a,b costs 6
         pairIs("breaks stay with places", x, 0, 2, 4);
     }
 
     private static void betters() {
-        PocketKeeper x = with(2, "b", "a,b,a");
+        PocketKeeper x = Due.with(2, "b", "a,b,a");
         Due.due("19: better()", x.better(), 3);
         Due.due("19: job(0, 1)", x.job(0, 1), 1);
         Due.due("19: job(1, 1)", x.job(1, 1), 0);
@@ -214,7 +181,7 @@ public final class KeepingTest {
         Due.due("19: better() again", x.better(), PocketKeeper.NONE);
         Due.due("19: nothing is otherwise", x.digest(), h);
         Due.due("19: count(5) then", x.count(5), 1);
-        PocketKeeper y = with(2, "b", "b,a,b,a,b,a");
+        PocketKeeper y = Due.with(2, "b", "b,a,b,a,b,a");
         int least = y.cost(1);
         for (int i = 1; i <= 30; i++) {
             int then = y.better();
@@ -238,7 +205,7 @@ public final class KeepingTest {
         Due.due("17: no jobs", none.ratio(), PocketKeeper.STATE);
         Due.due("18: no jobs", none.pair(0), PocketKeeper.STATE);
         Due.due("19: no jobs", none.better(), PocketKeeper.STATE);
-        PocketKeeper x = with(4, "", "a,b");
+        PocketKeeper x = Due.with(4, "", "a,b");
         for (PocketKeeper of : new PocketKeeper[] {none, x}) {
             outside(of);
         }
@@ -264,7 +231,7 @@ public final class KeepingTest {
     }
 
     private static void tooBig() {
-        PocketKeeper x = with(2, "", "a,ab,b");
+        PocketKeeper x = Due.with(2, "", "a,ab,b");
         Due.due("15: just big enough", x.cost(0), 2);
         x.big(1, true);
         long h = x.digest();

@@ -14,9 +14,7 @@ public final class OfAllTest {
     }
 
     private static void countsAre(String name, PocketKeeper x, int... want) {
-        for (int what = 0; what < want.length; what++) {
-            Due.due("20: " + name + " count(" + what + ")", x.count(what), want[what]);
-        }
+        Due.countsAre("20: " + name, x, want);
         for (int what : new int[] {-1, 8, Integer.MIN_VALUE, Integer.MAX_VALUE}) {
             Due.due("20: " + name + " count(" + what + ")", x.count(what), PocketKeeper.OUTSIDE);
         }
