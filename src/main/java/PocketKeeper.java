@@ -30,6 +30,9 @@ public final class PocketKeeper {
     /** Quotients here lie between 1/8 and 96, so a few halvings or doublings bring each to 1 up to 2. */
     private static final int MOST_SCALINGS = 16;
 
+    /** A job costs twelve pockets at most, so eight jobs cost 96 at most. */
+    private static final int ABOVE_ALL_COSTS = 1_000;
+
     private final Page page;
     private final Magazine magazine;
     private final Row row;
@@ -344,12 +347,14 @@ public final class PocketKeeper {
     }
 
     private long bitsOfMean() {
-        return bitsOfDouble((double) bySoonest.totalCost() / (double) row.size());
+        int many = row.size();
+        return many > 0 ? bitsOfDouble((double) bySoonest.totalCost() / (double) many) : NONE;
     }
 
-    /** Every job needs a tool and the magazine is empty at first, so LEAST is above zero. */
+    /** Every job needs a tool and the magazine is empty at first, so LEAST is above zero: the test is rule 7's. */
     private int bitsOfRatio() {
-        return bitsOfFloat((float) bySoonest.totalCost() / (float) byPlan.totalCost());
+        int least = byPlan.totalCost();
+        return least > 0 ? bitsOfFloat((float) bySoonest.totalCost() / (float) least) : NONE;
     }
 
     private int numberOfExchange(int what) {
@@ -567,14 +572,14 @@ public final class PocketKeeper {
             return broken[place];
         }
 
-        /** Only a whole page is read: its jobs are no more than there is room for. */
+        /** Only a whole page is read: its jobs are no more than there is room for, but the index is looked at here too. */
         boolean read(Page page) {
             if (!page.isWhole()) {
                 return false;
             }
             clear();
             int number = 0;
-            for (int i = 0; i < page.length(); i++) {
+            for (int i = 0; i < page.length() && number < MOST_JOBS; i++) {
                 if (page.codeAt(i) == BETWEEN_JOBS) {
                     number++;
                 } else {
@@ -817,7 +822,7 @@ public final class PocketKeeper {
         }
 
         private int costOfFewer(int place, int kept) {
-            int least = Integer.MAX_VALUE;
+            int least = ABOVE_ALL_COSTS;
             for (int tool = 0; tool < TOOLS; tool++) {
                 if (hasTool(kept, tool)) {
                     least = Math.min(least, costBehind[cell(place, kept & ~(1 << tool))]);

@@ -21,7 +21,9 @@ public final class FaceTest {
         constants();
         members();
         nested();
-        source(Path.of(args.length > 0 ? args[0] : ".", "src/main/java/PocketKeeper.java"));
+        Path root = Path.of(args.length > 0 ? args[0] : ".");
+        source(root.resolve("src/main/java/PocketKeeper.java"));
+        readme(Files.readString(root.resolve("README.md")));
         Due.end();
     }
 
@@ -90,7 +92,19 @@ public final class FaceTest {
         Matcher library = Pattern.compile("\\b([A-Z]\\w*)\\s*\\.\\s*(\\w+)").matcher(code);
         while (library.find()) {
             String used = library.group(1) + "." + library.group(2);
-            Due.holds(used + " is in LANGUAGE.md", Set.of("Integer.bitCount", "Integer.MAX_VALUE", "Math.min").contains(used));
+            Due.holds(used + " is in LANGUAGE.md", Set.of("Integer.bitCount", "Math.min").contains(used));
         }
+    }
+
+    /** README.md says how to use the class: each call and each constant is told of there. */
+    private static void readme(String text) {
+        for (String method : FACE) {
+            String name = method.substring(method.indexOf(' ') + 1, method.indexOf('('));
+            Due.holds("README.md tells of " + name, Pattern.compile("`" + name + "\\(").matcher(text).find());
+        }
+        for (String constant : new String[] {"NONE", "UNKNOWN", "OUTSIDE", "STATE", "FULL"}) {
+            Due.holds("README.md tells of " + constant, text.contains("`" + constant + "`"));
+        }
+        Due.holds("README.md tells how to run the tests", text.contains(".ci/run"));
     }
 }

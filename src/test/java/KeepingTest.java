@@ -1,8 +1,10 @@
+import java.lang.reflect.Method;
+
 /** Promises 13 to 19: soonest, plan, cost, mean, ratio, pair, better. */
 public final class KeepingTest {
     private static final int[] WRONG = {-1, Integer.MIN_VALUE, Integer.MAX_VALUE};
 
-    public static void main(String[] args) {
+    public static void main(String[] args) throws ReflectiveOperationException {
         soonestGoesLatestFirst();
         soonestOfLikeOnes();
         soonestWithBreaks();
@@ -11,6 +13,7 @@ public final class KeepingTest {
         askedAgain();
         costs();
         meansAndRatios();
+        bitsOfQuotients();
         pairs();
         betters();
         refusals();
@@ -148,6 +151,28 @@ public final class KeepingTest {
         quotientsAre("twelve", Due.with(12, "abcd", "abcdefgh"), 12, 1, 12);
         quotientsAre("two thirds", Due.with(4, "", "ab,ab,a"), 2, 3, 2);
         quotientsAre("five sixths", Due.with(5, "", "abcde,a,a,a,a,a"), 5, 6, 5);
+        // the greatest ratio that was found by searching
+        quotientsAre("three halves", Due.with(5, "bcdf", "dh,ef,dh,ef,dh,ef,dh,ef"), 18, 8, 12);
+    }
+
+    /** No run of calls is known whose ratio is 2 or more, so the bits of such ones are asked for by themselves. */
+    private static void bitsOfQuotients() throws ReflectiveOperationException {
+        Method ofDouble = PocketKeeper.class.getDeclaredMethod("bitsOfDouble", double.class);
+        Method ofFloat = PocketKeeper.class.getDeclaredMethod("bitsOfFloat", float.class);
+        ofDouble.setAccessible(true);
+        ofFloat.setAccessible(true);
+        for (int cost = 1; cost <= 96; cost++) {
+            for (int by = 1; by <= 96; by++) {
+                double mean = (double) cost / by;
+                if (by <= 8) {
+                    Due.due("16: bits of " + mean, (long) ofDouble.invoke(null, mean), Double.doubleToLongBits(mean));
+                }
+                float ratio = (float) cost / by;
+                if (by <= cost) {
+                    Due.due("17: bits of " + ratio, (int) ofFloat.invoke(null, ratio), Float.floatToIntBits(ratio));
+                }
+            }
+        }
     }
 
     private static void pairIs(String name, PocketKeeper x, int first, int second, int least) {

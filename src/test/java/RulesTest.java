@@ -1,9 +1,15 @@
+import com.sun.source.tree.BinaryTree;
 import com.sun.source.tree.ClassTree;
 import com.sun.source.tree.CompilationUnitTree;
+import com.sun.source.tree.ConditionalExpressionTree;
+import com.sun.source.tree.ExpressionTree;
 import com.sun.source.tree.LineMap;
+import com.sun.source.tree.LiteralTree;
 import com.sun.source.tree.MethodInvocationTree;
 import com.sun.source.tree.MethodTree;
 import com.sun.source.tree.NewClassTree;
+import com.sun.source.tree.Tree;
+import com.sun.source.tree.TypeCastTree;
 import com.sun.source.tree.VariableTree;
 import com.sun.source.util.JavacTask;
 import com.sun.source.util.TreePath;
@@ -23,7 +29,7 @@ import javax.tools.JavaCompiler;
 import javax.tools.StandardJavaFileManager;
 import javax.tools.ToolProvider;
 
-/** Rules 5, 8 and 11 of LANGUAGE.md, as javac reads the class: how deep calls go, how long methods are. */
+/** Rules 5, 7 (divisors), 8 and 11 of LANGUAGE.md, as javac reads the class: how deep calls go, how long methods are. */
 public final class RulesTest extends TreePathScanner<Void, Void> {
     private static final int DEEPEST = 8;
 
@@ -93,6 +99,32 @@ public final class RulesTest extends TreePathScanner<Void, Void> {
     public Void visitNewClass(NewClassTree tree, Void none) {
         addCall(trees.getElement(getCurrentPath()));
         return super.visitNewClass(tree, none);
+    }
+
+    @Override
+    public Void visitBinary(BinaryTree tree, Void none) {
+        if (tree.getKind() == Tree.Kind.DIVIDE || tree.getKind() == Tree.Kind.REMAINDER) {
+            ExpressionTree divisor = tree.getRightOperand();
+            while (divisor instanceof TypeCastTree cast) {
+                divisor = cast.getExpression();
+            }
+            boolean known = divisor instanceof LiteralTree || isLookedAt(divisor.toString());
+            Due.holds("7: in " + name(method) + " " + divisor + " is looked at before it divides", known);
+        }
+        return super.visitBinary(tree, none);
+    }
+
+    /** Whether what is being visited stands in "x > 0 ? .. : ..", in its first branch. */
+    private boolean isLookedAt(String divisor) {
+        Tree inside = null;
+        for (Tree tree : getCurrentPath()) {
+            if (tree instanceof ConditionalExpressionTree choice && choice.getTrueExpression() == inside
+                    && choice.getCondition().toString().equals(divisor + " > 0")) {
+                return true;
+            }
+            inside = tree;
+        }
+        return false;
     }
 
     private void addCall(Element called) {
